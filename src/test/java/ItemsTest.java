@@ -16,6 +16,7 @@ final class ItemsTest {
         count();
         decided();
         means();
+        goodFirst();
         Check.finish("ItemsTest");
     }
 
@@ -114,6 +115,8 @@ final class ItemsTest {
         Check.same("P15 spread is greater", classOf(vibration + "steady 7;", 50), 3);
         Check.same("P15 spread in the window", classOf(vibration + "steady 0;window 1;", 50), 1);
         Check.same("P15 spread of the latest two", classOf(vibration + "steady 0;window 2;", 50), 3);
+        Check.same("P15 the greatest is not the latest", classOf("vibration 4 40 3;steady 7;window 5;", 50), 3);
+        Check.same("P15 the greatest is not the latest", classOf("vibration 4 40 3;steady 8;window 5;", 50), 1);
         Check.same("P15 the oldest of the window", classOf("vibration 4 16 2;steady 0;window 7;", 50), 1);
         Check.same("P15 the one before the window", classOf("vibration 4 16 2;steady 0;window 8;", 50), 3);
     }
@@ -257,6 +260,17 @@ final class ItemsTest {
         }
         Check.refusesArgument("P19 -1", () -> x.count(-1));
         Check.refusesArgument("P19 6", () -> x.count(6));
+    }
+
+    private static void goodFirst() {
+        CheckWeigher x = Check.loaded(BELT + "limits 50 60;");
+        x.put(55, 10);
+        x.step(21);
+        x.setTare(4);
+        x.put(57, 10);
+        x.step(21);
+        Check.sameDouble("P21 the first one too", x.meanGood(), 54.0);
+        Check.sameDouble("P22 the second one", x.meanError(), 2.0);
     }
 
     private static void decided() {

@@ -5,6 +5,7 @@ final class RunningTest {
     public static void main(String[] args) {
         put();
         putLimit();
+        fullBelt();
         step();
         stepLimit();
         order();
@@ -58,6 +59,30 @@ final class RunningTest {
         Check.write(x, BELT);
         x.load();
         Check.same("P9 after load", x.put(5, 10), 0);
+    }
+
+    /** As many items, gates, vibrations and ticks as there can be. */
+    private static void fullBelt() {
+        CheckWeigher x = Check.loaded("belt 1 2000 4000 9000;vibration 999 40 39;vibration 999 38 37;"
+            + "vibration 999 36 35;vibration 999 34 33;gate under 4001 50;gate over 4002 50;gate unsteady 8999 50;"
+            + "drift 99 1;zero 60;window 60;least 60;confirm 99;");
+        for (int i = 0; i < 60; i++) {
+            Check.same("P9 number", x.put(9999, 1), i);
+            x.step(1);
+        }
+        Check.same("P9 all are on the belt", x.report(9), 60);
+        Check.same("P31 fate of the first", x.fate(0), 3);
+        Check.same("P31 fate of the last", x.fate(59), 3);
+        Check.stepTo(x, 4061);
+        Check.same("P20 all are disturbed", x.decided(3), 60);
+        Check.same("P29 all will be diverted", x.openTicks(2), 60);
+        Check.same("P30 the first of them", x.opensAt(2), 8999);
+        Check.stepTo(x, 10000);
+        Check.same("P19 all are diverted", x.count(3), 60);
+        Check.same("P8 all are confirmed", x.gate(2, 4), 60);
+        Check.same("P10 no samples are left out", x.item(0, 4) + x.item(59, 4), 2);
+        Check.same("P22 two have a measured weight", x.meanError() > 0.0, true);
+        Check.refusesElement("P21 none is good", x::meanGood);
     }
 
     private static void step() {

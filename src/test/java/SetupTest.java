@@ -8,6 +8,8 @@ final class SetupTest {
         truncate();
         load();
         loadBeginsAnew();
+        loadForgetsOldSettings();
+        loadForgetsOldItems();
         failedLoadKeepsAll();
         unexpectedTokens();
         numbersOutOfRange();
@@ -85,12 +87,19 @@ final class SetupTest {
     }
 
     private static void loadBeginsAnew() {
-        CheckWeigher x = Check.loaded(BELT + "gate under 250 0;limits 10 20;zero 1;drift 99 1;");
+        CheckWeigher x = Check.loaded(BELT + "gate under 250 0;limits 10 20;zero 1;confirm 2;");
         x.put(5, 10);
         x.step(30);
+        Check.same("P4 one is confirmed", x.gate(0, 4), 1);
+        x.sensor(0, true);
+        x.put(5, 10);
+        x.step(30);
+        Check.same("P4 one is an alarm", x.gate(0, 5), 1);
+        x.put(5, 10);
+        x.step(25);
+        Check.same("P4 one waits", x.report(10), 1);
         x.put(5, 10);
         x.jam(0, true);
-        x.sensor(0, true);
         x.setLimits(1, 2);
         x.setTare(5);
         Check.write(x, BELT + "gate under 250 0;");
@@ -114,6 +123,62 @@ final class SetupTest {
         Check.same("P4 put", x.put(1, 1), 0);
         Check.same("P4 new item is whole", x.item(0, 6), CheckWeigher.NONE);
         Check.same("P4 no samples", x.item(0, 4), 0);
+    }
+
+    /** Two loads with every setting, since the program may use the room of an older one again. */
+    private static void loadForgetsOldSettings() {
+        CheckWeigher x = new CheckWeigher();
+        for (int i = 0; i < 2; i++) {
+            Check.write(x, BELT + "vibration 900 6 0;gate under 250 3;limits 10 20;window 6;notch on;steady 1;"
+                + "least 9;drift 9 2;zero 3;confirm 1;");
+            Check.same("P4 all settings", x.load(), 1);
+            Check.write(x, BELT + "gate over 250 0;zero 1;?");
+            Check.refusesArgument("P4 wrong", x::load);
+        }
+        Check.write(x, BELT + "vibration 5 6 0;gate over 250 0;gate under 300 0;");
+        Check.same("P4 gates", x.load(), 2);
+        x.put(7000, 11);
+        x.step(15);
+        int[] due = {15, 10, 1, 2, 0, 9999, 20, 0, 1, 1, 0, 0};
+        for (int what = 0; what < due.length; what++) {
+            Check.same("P4 plain report(" + what + ")", x.report(what), due[what]);
+        }
+        Check.same("P4 no drift", x.sample(10), -5);
+        x.setLimits(0, 10);
+        x.step(10);
+        Check.same("P4 diverted", x.item(0, 3), 3);
+        Check.same("P4 measured with all samples", x.measured(0), (7000 * 9 + 5 * 3) / 9);
+        x.step(4);
+        Check.same("P4 waits", x.report(10), 1);
+        x.step(1);
+        Check.same("P4 confirmed after five ticks", x.gate(0, 4), 1);
+    }
+
+    private static void loadForgetsOldItems() {
+        CheckWeigher x = Check.loaded(BELT + "gate unsteady 250 0;confirm 9;");
+        x.put(50, 20);
+        x.step(2);
+        x.put(60, 20);
+        x.step(26);
+        Check.same("P4 disturbed and diverted", x.count(3), 2);
+        Check.write(x, BELT + "gate unsteady 250 0;confirm 9;zero 6;");
+        x.load();
+        x.step(3);
+        Check.same("P4 three empty ticks are not six", x.report(7), 0);
+        x.put(70, 2000);
+        for (int what = 2; what < 6; what++) {
+            Check.same("P4 new item(" + what + ")", x.item(0, what), 0);
+        }
+        for (int what = 6; what < 10; what++) {
+            Check.same("P4 new item(" + what + ")", x.item(0, what), CheckWeigher.NONE);
+        }
+        x.step(19);
+        Check.same("P4 closed", x.gate(0, 6), 0);
+        Check.same("P4 nothing waits", x.report(10), 0);
+        Check.same("P4 nothing commanded", x.openTicks(0), 0);
+        x.step(2);
+        Check.same("P4 decision", x.item(0, 8), 24);
+        Check.refusesElement("P4 no measured weight", () -> x.measured(0));
     }
 
     private static void failedLoadKeepsAll() {
@@ -160,6 +225,8 @@ final class SetupTest {
         error("  \n", 1, 3);
         error("belt", 1, 4);
         error("bel 10 100 200 300;", 1, 0);
+        error("felt 10 100 200 300;", 1, 0);
+        errorBehind("hero 1;", 1, 0);
         error("beltx 10 100 200 300;", 1, 0);
         error("Belt 10 100 200 300;", 1, 0);
         error("belt 10 100 200 300", 1, 19);
@@ -291,6 +358,8 @@ final class SetupTest {
         for (int what = 0; what < due.length; what++) {
             Check.same("P7 report(" + what + ")", x.report(what), due[what]);
         }
+        x.step(28);
+        Check.same("P7 one decided and one undecided", x.report(9), 2);
         Check.refusesArgument("P7 -1", () -> x.report(-1));
         Check.refusesArgument("P7 12", () -> x.report(12));
     }

@@ -8,6 +8,7 @@ final class TimingTest {
         opensAt();
         timesOfSeveralItems();
         fate();
+        fateFromWhatWas();
         fateChangesNothing();
         fateBeyondTheLastTime();
         spacing();
@@ -159,6 +160,41 @@ final class TimingTest {
         zeroed.put(51, 10);
         zeroed.step(1);
         Check.same("P31 the table is zeroed first", zeroed.fate(0), 3);
+    }
+
+    /** Samples, empty ticks and decisions of before count in the fate. */
+    private static void fateFromWhatWas() {
+        CheckWeigher x = Check.loaded(BELT + "vibration 9 40 0;gate under 250 0;limits 34 60;window 4;zero 12;");
+        x.step(5);
+        x.put(51, 10);
+        // the tare of the ticks 4 to 15: 9; the samples of the ticks 22 to 25: 42
+        Check.same("P31 empty ticks before", x.fate(0), 3);
+        x.setLimits(33, 60);
+        Check.same("P31 empty ticks before", x.fate(0), 2);
+        CheckWeigher y = Check.loaded("belt 1 100 200 400;gate over 300 0;drift 1 1;window 60;");
+        y.put(50, 30);
+        y.step(195);
+        // 191 to 250 in the end
+        y.setLimits(0, 219);
+        Check.same("P31 samples before", y.fate(0), 3);
+        y.setLimits(0, 220);
+        Check.same("P31 samples before", y.fate(0), 2);
+        y.step(6);
+        y.setLimits(0, 1);
+        Check.same("P31 decided before", y.fate(0), 2);
+        CheckWeigher z = Check.loaded(BELT + "gate over 250 0;gate unsteady 300 0;limits 50 60;");
+        z.put(70, 10);
+        z.step(13);
+        z.put(70, 10);
+        Check.same("P31 first", z.fate(0), 3);
+        z.step(3);
+        z.put(70, 150);
+        z.step(12);
+        Check.same("P31 second is alone to the end", z.fate(1), 3);
+        z.step(2);
+        Check.same("P31 disturbed now", z.item(1, 5), 1);
+        z.jam(1, true);
+        Check.same("P31 disturbed, its gate is jammed", z.fate(1), 5);
     }
 
     private static void fateChangesNothing() {

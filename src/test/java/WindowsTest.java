@@ -6,6 +6,7 @@ final class WindowsTest {
         vibration();
         residue();
         residueOfManyPeriods();
+        residueAtTheEdges();
         bestWindow();
         weightWith();
         samplesFor();
@@ -70,6 +71,17 @@ final class WindowsTest {
             Check.same("P24 value " + window, (long) x.residue(window, 0) * window,
                 (long) greatest * x.residue(window, 1));
         }
+    }
+
+    private static void residueAtTheEdges() {
+        CheckWeigher x = Check.loaded(BELT + "vibration 20 26 5;vibration 8 32 0;vibration 9 40 12;vibration 13 22 3;");
+        Check.same("P24 only from tick 0", x.residue(8, 0), 400 / 8);
+        CheckWeigher y = Check.loaded(BELT + "vibration 1 40 1;vibration 17 22 15;vibration 17 26 11;vibration 12 32 25;");
+        Check.same("P24 only from tick 1679", y.residue(8, 0), 376 / 8);
+        CheckWeigher z = Check.loaded(BELT + "vibration 20 26 10;vibration 8 32 24;vibration 9 40 0;vibration 13 22 14;");
+        // 400 from tick 1680, 374 before it
+        Check.same("P24 not from tick 1680", z.residue(8, 0), 374 / 2);
+        Check.same("P24 not from tick 1680", z.residue(8, 1), 8 / 2);
     }
 
     private static void bestWindow() {
