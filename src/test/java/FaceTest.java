@@ -16,6 +16,7 @@ final class FaceTest {
     public static void main(String[] args) throws IOException {
         publicMethods();
         otherMembers();
+        faceOfTheDocument();
         text();
         Check.finish("FaceTest");
     }
@@ -60,6 +61,25 @@ final class FaceTest {
         }
         Check.same("classes " + classes, classes <= 12, true);
         Check.same("fields " + fields, fields <= 20, true);
+    }
+
+    /** Each line of the document's face stands in the file, its throws clause in the same order. */
+    private static void faceOfTheDocument() throws IOException {
+        String document = Files.readString(Path.of("../shared/DOC.md"));
+        String program = Files.readString(Path.of("src/main/java/CheckWeigher.java")).replaceAll("\\s+", " ");
+        int from = document.indexOf("public final class CheckWeigher {");
+        String face = document.substring(from, document.indexOf("```", from));
+        int lines = 0;
+        for (String line : face.split("\n")) {
+            String due = line.trim();
+            if (due.startsWith("public") && due.endsWith(";")) {
+                lines++;
+                String end = due.contains("(") ? " {" : ";";
+                String whole = due.substring(0, due.length() - 1) + end;
+                Check.same("face: " + whole, program.contains(whole), true);
+            }
+        }
+        Check.same("lines of the face", lines, 33);
     }
 
     private static void text() throws IOException {

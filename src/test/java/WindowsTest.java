@@ -59,12 +59,15 @@ final class WindowsTest {
     private static void residueOfManyPeriods() {
         CheckWeigher x = Check.loaded(BELT
             + "vibration 100 40 3;vibration 90 38 5;vibration 80 34 7;vibration 70 26 9;");
+        int[][] vibrations = {{100, 40, 3}, {90, 38, 5}, {80, 34, 7}, {70, 26, 9}};
         for (int window = 1; window <= 60; window++) {
             int greatest = 0;
             for (int first = 0; first <= 1679; first++) {
                 int sum = 0;
                 for (int tick = first; tick < first + window; tick++) {
-                    sum += x.vibration(tick);
+                    for (int[] v : vibrations) {
+                        sum += (tick + v[2]) % v[1] < v[1] / 2 ? v[0] : -v[0];
+                    }
                 }
                 greatest = Math.max(greatest, Math.abs(sum));
             }
