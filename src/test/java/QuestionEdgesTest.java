@@ -38,6 +38,10 @@ final class QuestionEdgesTest {
         fateOfOneDisturbedBefore();
         spacingRanges();
         spacingEdges();
+        sixtyGoodItems();
+        fewerItemsThanBefore();
+        threeGates();
+        allIsFull();
         Check.finish("QuestionEdgesTest");
     }
 
@@ -651,5 +655,123 @@ final class QuestionEdgesTest {
         // in part with the front at 120 alone up to length 40
         Check.same("P32 length 40", free.spacing(40), 40);
         Check.same("P32 length 41", free.spacing(41), 80);
+    }
+
+    /** Sixty items of the weights 1 to 60, each alone on the table. */
+    private static CheckWeigher sixty() {
+        CheckWeigher x = Check.loaded(SLOW);
+        for (int weight = 1; weight <= 60; weight++) {
+            x.put(weight, 1);
+            x.step(10);
+        }
+        x.step(50);
+        return x;
+    }
+
+    private static void sixtyGoodItems() {
+        CheckWeigher x = sixty();
+        Check.same("P20 all are good", x.decided(1), 60);
+        Check.same("P19 all passed", x.count(2), 60);
+        Check.sameDouble("P21 the mean of all", x.meanGood(), 30.5);
+        Check.sameDouble("P22 no error", x.meanError(), 0.0);
+        Check.same("P16 the last one", x.measured(59), 60);
+        Check.same("P26 the last one", x.weightWith(59, 60), 60);
+        Check.same("P17 the last one's last sample", x.sampleOf(59, 9), 60);
+        Check.same("P31 the last one", x.fate(59), 2);
+        Check.same("P7 the belt is empty", x.report(9), 0);
+        Check.refusesIndex("P16 no item 60", () -> x.measured(60));
+        Check.refusesIndex("P17 no item 60", () -> x.sampleOf(60, 0));
+        Check.refusesIndex("P26 no item 60", () -> x.weightWith(60, 1));
+        Check.refusesIndex("P31 no item 60", () -> x.fate(60));
+    }
+
+    /** Items from before a load count nowhere, nor do those that a refused put would have made. */
+    private static void fewerItemsThanBefore() {
+        CheckWeigher x = sixty();
+        Check.write(x, SLOW + "gate over 30 0;limits 0 50;");
+        x.load();
+        Check.refusesElement("P21 none", x::meanGood);
+        Check.refusesElement("P22 none", x::meanError);
+        x.put(7, 1);
+        x.step(10);
+        x.put(60, 1);
+        x.step(10);
+        Check.refusesElement("P21 none yet", x::meanGood);
+        x.step(1);
+        Check.sameDouble("P21 one", x.meanGood(), 7.0);
+        Check.same("P29 nothing is commanded", x.openTicks(0), 0);
+        x.step(10);
+        Check.sameDouble("P22 two", x.meanError(), 0.0);
+        Check.same("P20 good ones", x.decided(1), 1);
+        Check.same("P20 over", x.decided(2), 1);
+        Check.same("P29 for one", x.openTicks(0), 1);
+        Check.same("P30 for one", x.opensAt(0), 40);
+        Check.same("P19 in state 1", x.count(1), 2);
+        Check.same("P19 in state 2", x.count(2), 0);
+        Check.same("P7 on the belt", x.report(9), 2);
+    }
+
+    private static void threeGates() {
+        String text = SLOW + "gate unsteady 30 0;gate over 31 0;gate under 32 0;limits 30 40;confirm 1;";
+        for (int fails = 0; fails < 8; fails++) {
+            CheckWeigher x = Check.loaded(text);
+            x.put(35, 11);
+            x.step(31);
+            x.put(50, 3);
+            x.step(32);
+            x.put(20, 3);
+            x.step(31);
+            Check.same("P7 all are confirmed so far", x.report(11) + x.report(10), 0);
+            for (int gate = 0; gate < 3; gate++) {
+                Check.same("P12 fails", x.sensor(gate, (fails >> gate & 1) == 1), (fails >> gate & 1) == 1);
+            }
+            x.step(2);
+            Check.same("P8 diverted at the last gate", x.gate(2, 3), 1);
+            Check.same("P7 an alarm of the last gate", x.report(11), fails >> 2);
+            x.put(35, 11);
+            x.step(31);
+            x.put(50, 3);
+            x.step(32);
+            Check.same("P8 alarms of the first gate", x.gate(0, 5), fails & 1);
+            Check.same("P8 alarms of the second gate", x.gate(1, 5), fails >> 1 & 1);
+            Check.same("P7 alarms of all", x.report(11), Integer.bitCount(fails));
+        }
+    }
+
+    /** As many vibrations, gates, settings and items as there can be, and every question about the last ones. */
+    private static void allIsFull() {
+        CheckWeigher x = Check.loaded("belt 1 10 20 9000;vibration 1 2 0;vibration 1 2 0;vibration 1 2 1;"
+            + "vibration 1 2 1;gate under 100 0;gate over 200 0;gate unsteady 300 0;limits 1 9998;window 60;"
+            + "notch on;steady 9999;least 1;drift 0 1;zero 60;confirm 99;");
+        for (int i = 0; i < 60; i++) {
+            x.put(9999, 1);
+            x.step(1);
+        }
+        int[] report = {60, 1, 4, 3, 1, 9998, 60, 0, 60, 60, 0, 0};
+        for (int what = 0; what < report.length; what++) {
+            Check.same("P7 what " + what, x.report(what), report[what]);
+        }
+        Check.same("P18 ten on the table", x.sample(0), 99990);
+        Check.same("P18 none at first", x.sample(59), 0);
+        Check.same("P19 forty before their decision", x.count(0), 20);
+        Check.same("P19 forty behind it", x.count(1), 40);
+        Check.same("P20 all are disturbed", x.decided(3), 40);
+        Check.same("P28 the last to the last", x.arrival(59, 2), 299);
+        Check.same("P29 for the forty", x.openTicks(2), 40);
+        Check.same("P30 for the first", x.opensAt(2), 300);
+        Check.same("P31 the last", x.fate(59), 3);
+        x.step(500);
+        int[] gate = {3, 300, 0, 60, 60, 0, 0, 0, 0};
+        for (int what = 0; what < gate.length; what++) {
+            Check.same("P8 what " + what, x.gate(2, what), gate[what]);
+        }
+        int[] item = {9999, 1, 300, 3, 1, 1, 3, 2, 80, 359};
+        for (int what = 0; what < item.length; what++) {
+            Check.same("P15 what " + what, x.item(59, what), item[what]);
+        }
+        Check.same("P16 the last one's one sample", x.measured(59), 9999);
+        Check.same("P24 they cancel", x.residue(60, 0), 0);
+        Check.refusesElement("P21 none is good", x::meanGood);
+        Check.sameDouble("P22 the first and the last", x.meanError(), 0.0);
     }
 }
