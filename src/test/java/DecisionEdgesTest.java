@@ -17,10 +17,13 @@ final class DecisionEdgesTest {
         limitsWithoutSetting();
         unsteadyComesFirst();
         measuredRounding();
+        tareBehindTheMean();
         tareOfThisTime();
         ticksOfALength();
         arrivalAtTheDecision();
         reactionEdges();
+        openForOneThatLeft();
+        nothingLeftOpenByALoad();
         classesWithoutGates();
         states();
         setLimitsRanges();
@@ -217,6 +220,25 @@ final class DecisionEdgesTest {
         Check.same("P26 rounded before the tare", x.weightWith(0, 3), -3);
     }
 
+    /** The mean is rounded before the tare is taken off: 13 / 3 - 5, and not (13 - 3 * 5) / 3. */
+    private static void tareBehindTheMean() {
+        CheckWeigher x = Check.loaded(SLOW + "vibration 10 4 2;window 3;");
+        x.put(1, 3);
+        x.step(20);
+        x.setTare(5);
+        Check.same("P26 4 - 5", x.weightWith(0, 3), -1);
+        x.step(1);
+        Check.same("P16 4 - 5", x.measured(0), -1);
+        Check.same("P15 -1 is under", x.item(0, 6), 0);
+        CheckWeigher y = Check.loaded(SLOW + "vibration 10 4 3;window 3;");
+        y.put(1, 3);
+        y.step(20);
+        y.setTare(-3);
+        Check.same("P26 -2 + 3", y.weightWith(0, 3), 1);
+        y.step(1);
+        Check.same("P16 -2 + 3", y.measured(0), 1);
+    }
+
     /** An item of 1 leaves the table at the tick of its decision: the tare of step 7 comes too late. */
     private static void tareOfThisTime() {
         CheckWeigher x = Check.loaded(SLOW + "zero 1;drift 1 1;window 1;");
@@ -286,6 +308,42 @@ final class DecisionEdgesTest {
         CheckWeigher next = one("gate over 21 1;limits 0 0;", 50, 2);
         Check.same("P29 one tick for a longer one", next.openTicks(0), 1);
         Check.same("P30 it is the next one", next.opensAt(0), 22);
+    }
+
+    /** A gate stays open for its item up to the last tick, also when a jam has let the item pass it and the end. */
+    private static void openForOneThatLeft() {
+        CheckWeigher x = Check.loaded(SLOW + "gate unsteady 50 0;");
+        x.put(30, 40);
+        x.jam(0, true);
+        x.step(60);
+        Check.same("P15 a miss", x.item(0, 3), 5);
+        x.jam(0, false);
+        Check.same("P8 open at 60", x.gate(0, 6), 1);
+        Check.same("P29 61 to 89", x.openTicks(0), 29);
+        Check.same("P30 the next one", x.opensAt(0), 61);
+        x.step(29);
+        Check.same("P8 open at 89", x.gate(0, 6), 1);
+        x.step(1);
+        Check.same("P8 closed at 90", x.gate(0, 6), 0);
+    }
+
+    /** Before the load the gate was commanded up to 69 for item 0; behind it nothing is for the new item 0. */
+    private static void nothingLeftOpenByALoad() {
+        CheckWeigher x = Check.loaded(SLOW + "gate unsteady 30 0;");
+        x.put(30, 40);
+        x.step(21);
+        Check.same("P29 30 to 69", x.openTicks(0), 40);
+        Check.write(x, SLOW + "gate over 30 50;limits 0 0;");
+        x.load();
+        x.put(50, 3);
+        x.step(21);
+        Check.same("P15 it is to be diverted", x.item(0, 7), 0);
+        Check.same("P29 nothing is commanded", x.openTicks(0), 0);
+        Check.refusesElement("P30 nothing is commanded", () -> x.opensAt(0));
+        Check.same("P31 a miss", x.fate(0), 5);
+        x.step(9);
+        Check.same("P8 closed at 30", x.gate(0, 6), 0);
+        Check.same("P15 past the gate", x.item(0, 3), 1);
     }
 
     private static void classesWithoutGates() {

@@ -9,7 +9,7 @@ import java.util.TreeSet;
 
 /** The face of the class is the document's, and its file keeps to what can be seen in its text. */
 final class FaceTest {
-    private static final String METHODS = "append truncate load errorCode errorPosition report gate put step jam"
+    static final String METHODS = "append truncate load errorCode errorPosition report gate put step jam"
         + " sensor setLimits setTare item measured sampleOf sample count decided meanGood meanError vibration"
         + " residue bestWindow weightWith samplesFor arrival openTicks opensAt fate spacing";
 

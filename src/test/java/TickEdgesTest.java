@@ -28,6 +28,7 @@ final class TickEdgesTest {
         latestSixtySamples();
         decisionBehindTheEnd();
         endOfTheBelt();
+        pastTheEndOfTheBelt();
         comesToAGate();
         gateNextToTheEnds();
         severalGatesAtOneTick();
@@ -43,7 +44,9 @@ final class TickEdgesTest {
         zeroBehindAnItem();
         zeroSinceLoading();
         zeroRoundsToNought();
+        zeroReplacesAnyTare();
         confirmEdges();
+        jamBehindTheDiversion();
         sensorAtTheTick();
         confirmationsOfOneTick();
         jamAndSensorChanges();
@@ -452,6 +455,18 @@ final class TickEdgesTest {
         Check.same("P15 passed", y.item(0, 3), 2);
     }
 
+    /** Speed 7: the end at 60 is passed with the front at 63. */
+    private static void pastTheEndOfTheBelt() {
+        CheckWeigher x = Check.loaded("belt 7 10 20 60;");
+        x.put(30, 3);
+        x.step(8);
+        Check.same("P15 at 56", x.item(0, 3), 1);
+        Check.same("P15 off at 63", x.step(1) + x.item(0, 3), 2);
+        Check.same("P15 its front when it left", x.item(0, 2), 63);
+        x.step(1);
+        Check.same("P15 it stays there", x.item(0, 2), 63);
+    }
+
     private static void comesToAGate() {
         CheckWeigher x = Check.loaded(SLOW + "gate over 30 0;limits 0 0;");
         x.put(30, 3);
@@ -713,6 +728,35 @@ final class TickEdgesTest {
         Check.same("P7 -10 / 3", x.report(7), -3);
         x.step(1);
         Check.same("P7 10 / 3", x.report(7), 3);
+    }
+
+    /** The tare is the mean of the samples, whatever it was before and whenever it was set. */
+    private static void zeroReplacesAnyTare() {
+        CheckWeigher x = Check.loaded(SLOW + "zero 2;drift 1 1;");
+        x.setTare(9);
+        x.step(2);
+        Check.same("P7 3 / 2", x.report(7), 1);
+        CheckWeigher y = Check.loaded(SLOW + "zero 3;drift 3 1;");
+        y.step(2);
+        y.setTare(50);
+        Check.same("P14 set between the empty ticks", y.report(7), 50);
+        y.step(1);
+        Check.same("P7 the ticks 1 to 3", y.report(7), 6);
+        y.setTare(-50);
+        Check.same("P7 at the present time", y.report(7), -50);
+        y.step(1);
+        Check.same("P7 the ticks 2 to 4", y.report(7), 9);
+    }
+
+    /** A jam closes the gate; what the gate has diverted is confirmed all the same. */
+    private static void jamBehindTheDiversion() {
+        CheckWeigher x = Check.loaded(SLOW + "gate over 30 0;limits 0 0;confirm 5;");
+        x.put(30, 3);
+        x.step(30);
+        x.jam(0, true);
+        x.step(5);
+        Check.same("P8 confirmed though jammed", x.gate(0, 4), 1);
+        Check.same("P8 no alarm", x.gate(0, 5), 0);
     }
 
     private static void confirmEdges() {

@@ -7,6 +7,7 @@ final class WindowsTest {
         residue();
         residueOfManyPeriods();
         residueAtTheEdges();
+        residueAfterLoads();
         bestWindow();
         weightWith();
         samplesFor();
@@ -85,6 +86,23 @@ final class WindowsTest {
         // 400 from tick 1680, 374 before it
         Check.same("P24 not from tick 1680", z.residue(8, 0), 374 / 2);
         Check.same("P24 not from tick 1680", z.residue(8, 1), 8 / 2);
+    }
+
+    /** Other vibrations of the same number, and a refused load. */
+    private static void residueAfterLoads() {
+        CheckWeigher x = Check.loaded(BELT + "vibration 6 8 0;");
+        Check.same("P24 period 8", x.residue(8, 0), 0);
+        Check.same("P25 period 8", x.bestWindow(13), 8);
+        Check.write(x, BELT + "vibration 7 12 0;");
+        x.load();
+        Check.same("P24 period 12", x.residue(8, 0), 7);
+        Check.same("P24 period 12", x.residue(8, 1), 2);
+        Check.same("P25 period 12", x.bestWindow(13), 12);
+        Check.write(x, BELT + "vibration 7 10 0;?");
+        Check.refusesArgument("P4 an error", x::load);
+        Check.same("P24 still period 12", x.residue(12, 0), 0);
+        Check.same("P25 still period 12", x.bestWindow(13), 12);
+        Check.same("P23 still period 12", x.vibration(5), 7);
     }
 
     private static void bestWindow() {
