@@ -562,7 +562,7 @@ public final class CheckWeigher {
             return front - length >= tableBegin && front <= tableEnd;
         }
 
-        /** The least number of ticks in which the belt moves by a distance greater than -speed. */
+        /** The least number of ticks in which the belt moves by the distance, which is greater than -speed. */
         int ticksFor(int distance) {
             return quotientUp(distance, speed);
         }
